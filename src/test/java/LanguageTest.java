@@ -144,6 +144,9 @@ public final class LanguageTest {
         good("drift across by 1 when not [not [not [not 1 = (1)]]];");
         good("drift across by 1 when not [not [not [not 1 = 1]]] and not [not [not [not [1 = 1]]]];");
         good("drift across by min(min(min(min(min(min(min(min(1,2),2),2),2),2),2),2),2);");
+        marked(1, "drift across by min(min(min(min(min(min(min(min(?(1),2),2),2),2),2),2),2),2);");
+        marked(1, "drift across by height(-------?-1, 2);");
+        marked(1, "drift across by height(1, -------?-2);");
         marked(1, "drift across by ((((((((min?(1,2)))))))));");
         marked(1, "drift across by ((((((((height?(1,2)))))))));");
         marked(1, "drift across by max(1,max(1,max(1,max(1,max(1,max(1,max(1,max(1,?(1)))))))));");

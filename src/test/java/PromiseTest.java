@@ -3,6 +3,8 @@ public final class PromiseTest {
     /** Columns of heights 500, 540, 500, 460; of inks a, b, a and bare. */
     private static final String STRIPES = "paper 4 by 4; octave o across 1 down 1 strength 9 seed 0; "
         + "ink a from 480; ink b from 520;";
+    /** Only the spot (1, 1) and the four beside it are higher than 500, only (3, 3) and those beside it lower. */
+    private static final String HILL = "paper 4 by 4; octave o across 1 down 1 strength 9 seed 1; ink a from 501;";
     private static final String TWO_COMBS = "paper 4 by 4; comb a across teeth 1 pull 2; comb b down teeth 1 pull 2;";
 
     private PromiseTest() {
@@ -133,12 +135,20 @@ public final class PromiseTest {
         due("4: the pull told", 7, () -> x.comb(0, 2));
         due("4: the empty tape", 0, x::teach);
         due("4: columns of it", 16, () -> x.count(1));
+        due("4: rows of it", 12, () -> x.count(2));
         due("4: combs of it", 0, () -> x.count(4));
         MarbledPaper y = taught(STRIPES);
         y.height(0, 0);
         Checks.write(y, STRIPES.replace("seed 0", "seed 4"));
         due("4: again", 0, y::teach);
         due("4: values are new", 460, () -> y.height(1, 0));
+        Checks.write(y, STRIPES.replace("seed 0", "seed 4").replace("across 1", "across 2"));
+        due("4: other cells", 0, y::teach);
+        due("4: values are new with the same seed", true, () -> y.value(0, 1, 0) * 9 / 16 + 500 == y.height(1, 0));
+        Checks.write(y, "ink z from 501;");
+        due("4: no octaves any more", 0, y::teach);
+        due("4: heights without them", 500, () -> y.height(1, 0));
+        due("4: all are bare", 192, () -> y.share(0));
     }
 
     private static void promise5() {
@@ -176,6 +186,21 @@ public final class PromiseTest {
         x.setSeed(0, 5);
         x.setPull(0, 5);
         due("6: by hand is not carried out", 6, () -> x.count(13));
+        // The highest and the lowest spot are moved over the sheet; each answer is the first call behind that.
+        for (int spot = 0; spot < 16; spot++) {
+            int across = spot % 4;
+            int down = spot / 4;
+            for (int what = 7; what <= 10; what++) {
+                MarbledPaper hill = taught(HILL);
+                hill.drift(across, down);
+                int n = what;
+                due("6: hill " + across + " " + down + " count " + n, new int[] {2, 12, 446, 554}[n - 7],
+                    () -> hill.count(n));
+            }
+        }
+        due("6: no patch before", 1, () -> new MarbledPaper().count(7));
+        due("6: no height before", 500, () -> new MarbledPaper().count(9));
+        due("6: nor a greatest one", 500, () -> new MarbledPaper().count(10));
         for (int what : new int[] {-1, 15, Integer.MIN_VALUE, Integer.MAX_VALUE}) {
             indexThrown("6: count " + what, () -> x.count(what));
         }
@@ -207,6 +232,17 @@ public final class PromiseTest {
         // Values: at (1, 0) 320 of each octave, 320 * 36 / 16 = 720 and 500 is beyond 999.
         due("7: held at 999", 999, () -> four.height(1, 0));
         due("7: held at 0", 0, () -> four.height(3, 0));
+        // Values by 9 are 18 * (d + e), by 3 they are 9 * d, with d and e of 0, 24, 0, -24.
+        MarbledPaper two = taught("paper 4 by 4; octave p across 1 down 1 strength 9 seed 1; "
+            + "octave q across 1 down 1 strength 3 seed 0;");
+        due("7: octaves are added, above", 567, () -> two.height(1, 1));
+        due("7: octaves are added, below", 433, () -> two.height(3, 3));
+        due("7: octaves are added, the second alone", 513, () -> two.height(1, 3));
+        due("7: octaves are added, the first alone", 527, () -> two.height(0, 1));
+        two.setSeed(1, 4);
+        due("7: the second one turned", 540, () -> two.height(1, 1));
+        two.setSeed(0, 0);
+        due("7: the first one turned", 527, () -> two.height(1, 1));
         due("7: without octaves", 500, () -> new MarbledPaper().height(-5, 99));
     }
 
@@ -241,6 +277,12 @@ public final class PromiseTest {
         due("9: around the edge below", 12, () -> y.patch(0, 3));
         due("9: two patches", 2, () -> y.count(7));
         due("9: contours", 8, () -> y.count(8));
+        MarbledPaper hill = taught(HILL);
+        hill.drift(-1, -1);
+        due("9: around two edges", 5, () -> hill.patch(0, 0));
+        due("9: around two edges, left", 5, () -> hill.patch(3, 0));
+        due("9: around two edges, above", 5, () -> hill.patch(0, 3));
+        due("9: its surroundings", 11, () -> hill.patch(2, 2));
         // Values are 2 * (d + e), d and e of 0, 24, 0, -24: (1, 1) alone has ink b, the four beside it have a.
         MarbledPaper z = taught("paper 4 by 4; octave o across 1 down 1 strength 9 seed 1; ink a from 501; ink b from 530;");
         due("9: a spot alone", 1, () -> z.patch(1, 1));
@@ -279,6 +321,14 @@ public final class PromiseTest {
         // Its values are 2 * (d - e), d and e each one of 0, 24, 0, -24: six of sixteen are 0.
         due("11: with another seed, a", 6, () -> x.share(1));
         due("11: with another seed, b", 5, () -> x.share(2));
+        due("11: with another seed, bare", 5, () -> x.share(0));
+        MarbledPaper five = taught(STRIPES + "ink c from 521; ink d from 540; ink e from 541;");
+        int[] shares = {4, 8, 0, 0, 4, 0};
+        for (int ink = 0; ink <= 5; ink++) {
+            int n = ink;
+            due("11: of five inks, " + n, shares[n], () -> five.share(n));
+        }
+        indexThrown("11: the sixth", () -> five.share(6));
         MarbledPaper y = new MarbledPaper();
         due("11: no inks", 192, () -> y.share(0));
         indexThrown("11: the first of no inks", () -> y.share(1));
@@ -345,6 +395,20 @@ public final class PromiseTest {
         due("14: between two gradients", 320, () -> y.value(0, 1, 0));
         due("14: around the edge", -320, () -> y.value(0, 3, 0));
         due("14: between four corners", 320, () -> y.value(0, 1, 2));
+        // By the words of promise 14's part of the document, with another program.
+        int[][] values = {
+            {0, -113, -69, 118, 74, 0, 0},
+            {-160, -278, 27, 160, -22, 48, 115},
+            {109, 190, 65, -88, -86, 186, 182},
+            {107, 172, -133, -385, -195, 183, 177},
+            {-30, -29, 78, -146, -277, -66, 145}};
+        MarbledPaper cells = taught("paper 7 by 5; octave n across 1 down 1 strength 1 seed 0; "
+            + "octave o across 3 down 4 strength 1 seed 6;");
+        for (int spot = 0; spot < 35; spot++) {
+            int column = spot % 7;
+            int row = spot / 7;
+            due("14: twelve cells at " + column + " " + row, values[row][column], () -> cells.value(1, column, row));
+        }
         for (int octave : new int[] {-1, 1, Integer.MAX_VALUE, Integer.MIN_VALUE}) {
             indexThrown("14: value " + octave, () -> y.value(octave, 0, 0));
         }
@@ -431,6 +495,10 @@ public final class PromiseTest {
         due("19: as far as can be", (1 + 999) % 7 * 5 + Math.floorMod(2 - 999, 5), () -> x.drift(-999, 999));
         due("19: drift across", Math.floorMod(2 - 999, 5), () -> x.count(11));
         due("19: drift down", 1000 % 7, () -> x.count(12));
+        x.drift(999, -999);
+        due("19: and back", 2, () -> x.count(11));
+        due("19: and back down", 1, () -> x.count(12));
+        x.drift(-999, 999);
         int[][] wrong = {{1000, 0}, {-1000, 0}, {0, 1000}, {0, -1000}, {Integer.MIN_VALUE, 0}, {0, Integer.MAX_VALUE}};
         for (int[] pair : wrong) {
             argumentThrown("19: drift " + pair[0] + " " + pair[1], () -> x.drift(pair[0], pair[1]));
@@ -471,6 +539,12 @@ public final class PromiseTest {
         due("20: drifts of it", 1 * 4 + 1, () -> y.drift(0, 0));
         // column 0 is bare; height(1, 0) still is 500
         due("20: the next one", 1, () -> y.dip(1));
+        for (int down = 0; down < 4; down++) {
+            // Rows of 500, 540, 500, 460: ink b is in one row alone.
+            MarbledPaper edge = taught(STRIPES.replace("seed 0", "seed 2") + "drift across by 1 when edge b;");
+            edge.drift(0, down);
+            due("20: the edge has every row, " + down, 1, () -> edge.dip(1));
+        }
         MarbledPaper z = taught("paper 24 by 7; drift across by 2047*1024*1024+1024*1023*1023; drift down by -(2048*1024*1024);");
         z.drift(23, 6);
         z.dip(1);
@@ -498,6 +572,11 @@ public final class PromiseTest {
             }
         }
         due("21: nothing is changed", before, x::digest);
+        for (int what = 7; what <= 10; what++) {
+            int w = what;
+            due("21: the first call foresees " + w, new int[] {2, 12, 446, 554}[w - 7],
+                () -> taught(HILL + "drift across by 1;").foresee(1, w));
+        }
         due("21: carried out in all", 4, () -> x.foresee(1, 13));
         due("21: drift across", 3, () -> x.foresee(2, 11));
         due("21: drift down", 2, () -> x.foresee(2, 12));
@@ -529,29 +608,38 @@ public final class PromiseTest {
     }
 
     private static void promise23() {
-        MarbledPaper x = taught("paper 4 by 4; octave o across 1 down 1 strength 9 seed 1; ink a from 501; ink b from 530; "
-            + "comb c across teeth 1 pull 7;");
-        long before = x.digest();
-        int best = 0;
-        int fewest = 17;
-        MarbledPaper other = taught("paper 4 by 4; octave o across 1 down 1 strength 9 seed 1; ink a from 501; "
-            + "ink b from 530; comb c across teeth 1 pull 7;");
-        for (int pull = 0; pull <= 16; pull++) {
-            other.setPull(0, pull);
-            if (other.count(7) < fewest) {
-                fewest = other.count(7);
-                best = pull;
-            }
-        }
-        int want = best;
-        due("23: advise", want, () -> x.advise(0));
-        due("23: another one than none", true, () -> want != 0);
-        due("23: nothing is changed", before, x::digest);
+        advised("paper 4 by 5; octave o across 1 down 3 strength 9 seed 1; comb c across teeth 3 pull 3; "
+            + "ink a from 490; ink b from 520;", 3);
+        advised("paper 4 by 4; octave o across 2 down 2 strength 9 seed 3; comb c across teeth 3 pull 3; "
+            + "ink a from 490; ink b from 520;", 5);
+        advised("paper 4 by 9; octave o across 2 down 3 strength 9 seed 7; comb c across teeth 7 pull 3; "
+            + "ink a from 490; ink b from 520;", 16);
+        MarbledPaper x = taught("comb b across teeth 1 pull 2;");
         due("23: of several the smallest", 0, () -> taught("comb c across teeth 1 pull 7;").advise(0));
         for (int comb : new int[] {-1, 1, Integer.MIN_VALUE, Integer.MAX_VALUE}) {
             indexThrown("23: advise " + comb, () -> x.advise(comb));
         }
         indexThrown("23: no combs", () -> new MarbledPaper().advise(0));
+    }
+
+    /** The pull advised is the first one that gives the fewest patches, when each is set by hand. */
+    private static void advised(String list, int want) {
+        MarbledPaper x = taught(list);
+        long before = x.digest();
+        due("23: advise", want, () -> x.advise(0));
+        due("23: nothing is changed", before, x::digest);
+        int fewest = Integer.MAX_VALUE;
+        int best = -1;
+        for (int pull = 0; pull <= 16; pull++) {
+            x.setPull(0, pull);
+            if (x.count(7) < fewest) {
+                fewest = x.count(7);
+                best = pull;
+            }
+        }
+        int found = best;
+        due("23: as by hand", want, () -> found);
+        due("23: whatever its pull is", want, () -> x.advise(0));
     }
 
     private static void promise24() {
