@@ -20,7 +20,7 @@ public final class MarbledPaper {
     private static final int MOST_DRIFT = 999;
     private static final int MOST_HEIGHT = 999;
     private static final int GRADIENTS = 8;
-    private static final int CORNERS = 8;
+    private static final int MOST_CELLS = 8;
 
     // What count() tells by these numbers.
     private static final int PATCHES = 7;
@@ -101,12 +101,12 @@ public final class MarbledPaper {
 
     public int height(int column, int row) {
         now.refresh();
-        return Rows.at(now.heights, plan.spot(column, row));
+        return Guard.at(now.heights, plan.spot(column, row));
     }
 
     public int ink(int column, int row) {
         now.refresh();
-        return Rows.at(now.inks, plan.spot(column, row));
+        return Guard.at(now.inks, plan.spot(column, row));
     }
 
     public int patch(int column, int row) {
@@ -123,7 +123,7 @@ public final class MarbledPaper {
             throw new IndexOutOfBoundsException("no such ink");
         }
         now.refresh();
-        return Rows.at(now.shares, ink);
+        return Guard.at(now.shares, ink);
     }
 
     // ---- octaves and combs
@@ -139,19 +139,19 @@ public final class MarbledPaper {
         if (octave < 0 || octave >= plan.octaves) {
             throw new IndexOutOfBoundsException("no such octave");
         }
-        if (i < 0 || i > CORNERS || j < 0 || j > CORNERS) {
+        if (i < 0 || i > MOST_CELLS || j < 0 || j > MOST_CELLS) {
             throw new IndexOutOfBoundsException("no such corner");
         }
-        return waves.gradientAt(octave, Rows.at(now.seeds, octave), i, j);
+        return waves.gradientAt(octave, Guard.at(now.seeds, octave), i, j);
     }
 
     public int value(int octave, int column, int row) throws IndexOutOfBoundsException {
         if (octave < 0 || octave >= plan.octaves) {
             throw new IndexOutOfBoundsException("no such octave");
         }
-        int x = Rows.wrap(column, plan.columns);
-        int y = Rows.wrap(row, plan.rows);
-        return waves.valueAt(octave, Rows.at(now.seeds, octave), x, y);
+        int x = Guard.wrap(column, plan.columns);
+        int y = Guard.wrap(row, plan.rows);
+        return waves.valueAt(octave, Guard.at(now.seeds, octave), x, y);
     }
 
     public int comb(int comb, int what) throws IndexOutOfBoundsException {
@@ -165,7 +165,7 @@ public final class MarbledPaper {
         if (comb < 0 || comb >= plan.combs) {
             throw new IndexOutOfBoundsException("no such comb");
         }
-        return now.shiftOf(comb, Rows.wrap(line, plan.linesOf(comb)));
+        return now.shiftOf(comb, Guard.wrap(line, plan.linesOf(comb)));
     }
 
     // ---- by hand
@@ -177,7 +177,7 @@ public final class MarbledPaper {
         if (pull < 0 || pull > MOST_PULL) {
             throw new IllegalArgumentException("no such pull");
         }
-        int before = Rows.at(now.pulls, comb);
+        int before = Guard.at(now.pulls, comb);
         now.changePull(comb, pull);
         return before;
     }
@@ -189,7 +189,7 @@ public final class MarbledPaper {
         if (seed < 0 || seed > MOST_SEED) {
             throw new IllegalArgumentException("no such seed");
         }
-        int before = Rows.at(now.seeds, octave);
+        int before = Guard.at(now.seeds, octave);
         now.changeSeed(octave, seed);
         return before;
     }
@@ -243,7 +243,7 @@ public final class MarbledPaper {
                 trial.dipOnce();
             }
             trial.refresh();
-            if (Rows.at(trial.inks, spot) == ink) {
+            if (Guard.at(trial.inks, spot) == ink) {
                 return dips;
             }
         }
@@ -273,7 +273,7 @@ public final class MarbledPaper {
         int spots = plan.columns * plan.rows;
         int sum = 0;
         for (int spot = 0; spot < spots; spot++) {
-            sum += Rows.at(now.heights, spot);
+            sum += Guard.at(now.heights, spot);
         }
         return spots > 0 ? (double) sum / (double) spots : 0.0;
     }
@@ -296,16 +296,16 @@ public final class MarbledPaper {
             }
         }
         for (int ink = 0; ink <= plan.inks; ink++) {
-            d = d * 31 + Rows.at(now.shares, ink);
+            d = d * 31 + Guard.at(now.shares, ink);
         }
         for (int spot = 0; spot < plan.columns * plan.rows; spot++) {
-            d = d * 31 + Rows.at(now.heights, spot);
+            d = d * 31 + Guard.at(now.heights, spot);
         }
         return d;
     }
 
     /** Rows and divisions that look before they leap: what does not fit is 0, or is left out. */
-    private static final class Rows {
+    private static final class Guard {
         static int at(int[] row, int k) {
             return row != null && k >= 0 && k < row.length ? row[k] : 0;
         }
@@ -533,7 +533,7 @@ public final class MarbledPaper {
         }
 
         int startAt(int token) {
-            return Rows.at(starts, token);
+            return Guard.at(starts, token);
         }
 
         long contentAt(int token) {
@@ -652,9 +652,9 @@ public final class MarbledPaper {
             advance();
             readNewName(octaves);
             expect(Kind.ACROSS);
-            int across = readNumber(1, CORNERS);
+            int across = readNumber(1, MOST_CELLS);
             expect(Kind.DOWN);
-            int down = readNumber(1, CORNERS);
+            int down = readNumber(1, MOST_CELLS);
             expect(Kind.STRENGTH);
             int strength = readNumber(1, 9);
             expect(Kind.SEED);
@@ -931,45 +931,45 @@ public final class MarbledPaper {
 
         void begin(int kind, int target) {
             number = Math.min(number + 1, MOST_ORDERS);
-            Rows.put(kinds, number - 1, kind);
-            Rows.put(targets, number - 1, target);
-            Rows.put(sums, number - 1, length);
-            Rows.put(looks, number - 1, 0);
+            Guard.put(kinds, number - 1, kind);
+            Guard.put(targets, number - 1, target);
+            Guard.put(sums, number - 1, length);
+            Guard.put(looks, number - 1, 0);
         }
 
         void endSum() {
-            Rows.put(tests, number - 1, length);
+            Guard.put(tests, number - 1, length);
         }
 
         void endTest() {
-            Rows.put(ends, number - 1, length);
+            Guard.put(ends, number - 1, length);
         }
 
         void add(int operation, int operand) {
-            Rows.put(operations, length, operation);
-            Rows.put(operands, length, operand);
+            Guard.put(operations, length, operation);
+            Guard.put(operands, length, operand);
             length = Math.min(length + 1, MOST_TOKENS);
             if (operation == Kind.SHARE || operation == Kind.HEIGHT || operation == Kind.EDGE) {
-                Rows.put(looks, number - 1, 1);
+                Guard.put(looks, number - 1, 1);
             }
         }
 
         /** Whether the order asks for heights or inks of spots. */
         boolean looksAtSpots(int order) {
-            return Rows.at(looks, order) != 0;
+            return Guard.at(looks, order) != 0;
         }
 
         void take(Orders other) {
             number = other.number;
             length = other.length;
-            Rows.copy(other.kinds, kinds);
-            Rows.copy(other.targets, targets);
-            Rows.copy(other.sums, sums);
-            Rows.copy(other.tests, tests);
-            Rows.copy(other.ends, ends);
-            Rows.copy(other.looks, looks);
-            Rows.copy(other.operations, operations);
-            Rows.copy(other.operands, operands);
+            Guard.copy(other.kinds, kinds);
+            Guard.copy(other.targets, targets);
+            Guard.copy(other.sums, sums);
+            Guard.copy(other.tests, tests);
+            Guard.copy(other.ends, ends);
+            Guard.copy(other.looks, looks);
+            Guard.copy(other.operations, operations);
+            Guard.copy(other.operands, operands);
         }
     }
 
@@ -1000,27 +1000,27 @@ public final class MarbledPaper {
         }
 
         void addOctave(int cellsAcross, int cellsDown, int strength, int seed) {
-            Rows.put(across, octaves, cellsAcross);
-            Rows.put(down, octaves, cellsDown);
-            Rows.put(strengths, octaves, strength);
-            Rows.put(seeds, octaves, seed);
+            Guard.put(across, octaves, cellsAcross);
+            Guard.put(down, octaves, cellsDown);
+            Guard.put(strengths, octaves, strength);
+            Guard.put(seeds, octaves, seed);
             octaves = Math.min(octaves + 1, MOST_OCTAVES);
         }
 
         void addComb(int way, int teethOfIt, int pull) {
-            Rows.put(ways, combs, way);
-            Rows.put(teeth, combs, teethOfIt);
-            Rows.put(pulls, combs, pull);
+            Guard.put(ways, combs, way);
+            Guard.put(teeth, combs, teethOfIt);
+            Guard.put(pulls, combs, pull);
             combs = Math.min(combs + 1, MOST_COMBS);
         }
 
         void addInk(int level) {
-            Rows.put(levels, inks, level);
+            Guard.put(levels, inks, level);
             inks = Math.min(inks + 1, MOST_INKS);
         }
 
         int lowestNextLevel() {
-            return inks == 0 ? 0 : Rows.at(levels, inks - 1) + 1;
+            return inks == 0 ? 0 : Guard.at(levels, inks - 1) + 1;
         }
 
         void take(Plan other) {
@@ -1029,30 +1029,30 @@ public final class MarbledPaper {
             octaves = other.octaves;
             combs = other.combs;
             inks = other.inks;
-            Rows.copy(other.across, across);
-            Rows.copy(other.down, down);
-            Rows.copy(other.strengths, strengths);
-            Rows.copy(other.seeds, seeds);
-            Rows.copy(other.ways, ways);
-            Rows.copy(other.teeth, teeth);
-            Rows.copy(other.pulls, pulls);
-            Rows.copy(other.levels, levels);
+            Guard.copy(other.across, across);
+            Guard.copy(other.down, down);
+            Guard.copy(other.strengths, strengths);
+            Guard.copy(other.seeds, seeds);
+            Guard.copy(other.ways, ways);
+            Guard.copy(other.teeth, teeth);
+            Guard.copy(other.pulls, pulls);
+            Guard.copy(other.levels, levels);
             orders.take(other.orders);
         }
 
         int spot(int column, int row) {
-            return Rows.wrap(row, rows) * columns + Rows.wrap(column, columns);
+            return Guard.wrap(row, rows) * columns + Guard.wrap(column, columns);
         }
 
         /** How many lines a comb goes over: rows, if it goes across, else columns. */
         int linesOf(int comb) {
-            return Rows.at(ways, comb) == 0 ? rows : columns;
+            return Guard.at(ways, comb) == 0 ? rows : columns;
         }
 
         int inkOf(int height) {
             int ink = 0;
             for (int k = 0; k < inks; k++) {
-                if (Rows.at(levels, k) <= height) {
+                if (Guard.at(levels, k) <= height) {
                     ink++;
                 }
             }
@@ -1085,21 +1085,21 @@ public final class MarbledPaper {
         /** Sees to it that valueKept has the values for this seed. */
         void prepare(int octave, int seed) {
             int sheet = sheetOf(octave, seed);
-            if (Rows.at(known, sheet) != 0) {
+            if (Guard.at(known, sheet) != 0) {
                 return;
             }
             int spot = sheet * MOST_SPOTS;
             for (int y = 0; y < plan.rows; y++) {
                 for (int x = 0; x < plan.columns; x++) {
-                    Rows.put(values, spot, valueAt(octave, seed, x, y));
+                    Guard.put(values, spot, valueAt(octave, seed, x, y));
                     spot++;
                 }
             }
-            Rows.put(known, sheet, 1);
+            Guard.put(known, sheet, 1);
         }
 
         int valueKept(int octave, int seed, int spot) {
-            return Rows.at(values, sheetOf(octave, seed) * MOST_SPOTS + spot);
+            return Guard.at(values, sheetOf(octave, seed) * MOST_SPOTS + spot);
         }
 
         private static int sheetOf(int octave, int seed) {
@@ -1107,8 +1107,8 @@ public final class MarbledPaper {
         }
 
         int valueAt(int octave, int seed, int x, int y) {
-            int placeAcross = Rows.quotient(256 * x * Rows.at(plan.across, octave), plan.columns);
-            int placeDown = Rows.quotient(256 * y * Rows.at(plan.down, octave), plan.rows);
+            int placeAcross = Guard.quotient(256 * x * Guard.at(plan.across, octave), plan.columns);
+            int placeDown = Guard.quotient(256 * y * Guard.at(plan.down, octave), plan.rows);
             int i = placeAcross / 256;
             int j = placeDown / 256;
             int f = placeAcross % 256;
@@ -1125,13 +1125,13 @@ public final class MarbledPaper {
 
         /** The number of the gradient at a corner, i and j 0 or greater. */
         int gradientAt(int octave, int seed, int i, int j) {
-            int a = Rows.wrap(i, Rows.at(plan.across, octave));
-            int b = Rows.wrap(j, Rows.at(plan.down, octave));
+            int a = Guard.wrap(i, Guard.at(plan.across, octave));
+            int b = Guard.wrap(j, Guard.at(plan.down, octave));
             return (seed + 3 * a * a + 5 * b + a * b) % GRADIENTS;
         }
 
         private static int pullOf(int gradient, int across, int down) {
-            return Rows.at(ACROSS, gradient) * across + Rows.at(DOWN, gradient) * down;
+            return Guard.at(ACROSS, gradient) * across + Guard.at(DOWN, gradient) * down;
         }
 
         private static int fade(int t) {
@@ -1157,17 +1157,17 @@ public final class MarbledPaper {
             number = 0;
             contours = 0;
             for (int spot = 0; spot < spots; spot++) {
-                Rows.put(patchOf, spot, -1);
+                Guard.put(patchOf, spot, -1);
             }
             for (int spot = 0; spot < spots; spot++) {
-                int ink = Rows.at(inks, spot);
-                if (Rows.at(inks, rightOf(spot, columns)) != ink) {
+                int ink = Guard.at(inks, spot);
+                if (Guard.at(inks, rightOf(spot, columns)) != ink) {
                     contours++;
                 }
-                if (Rows.at(inks, below(spot, columns, spots)) != ink) {
+                if (Guard.at(inks, below(spot, columns, spots)) != ink) {
                     contours++;
                 }
-                if (Rows.at(patchOf, spot) < 0) {
+                if (Guard.at(patchOf, spot) < 0) {
                     spread(inks, spot, columns, spots);
                 }
             }
@@ -1175,28 +1175,28 @@ public final class MarbledPaper {
 
         /** Makes a new patch of all that hangs together with the spot. */
         private void spread(int[] inks, int first, int columns, int spots) {
-            int ink = Rows.at(inks, first);
+            int ink = Guard.at(inks, first);
             queued = 0;
             join(first, true);
-            for (int k = 0; k < queued; k++) {
-                int spot = Rows.at(queue, k);
+            for (int k = 0; k < queued && k < queue.length; k++) {
+                int spot = Guard.at(queue, k);
                 int left = leftOf(spot, columns);
                 int right = rightOf(spot, columns);
                 int above = above(spot, columns, spots);
                 int below = below(spot, columns, spots);
-                join(left, Rows.at(inks, left) == ink);
-                join(right, Rows.at(inks, right) == ink);
-                join(above, Rows.at(inks, above) == ink);
-                join(below, Rows.at(inks, below) == ink);
+                join(left, Guard.at(inks, left) == ink);
+                join(right, Guard.at(inks, right) == ink);
+                join(above, Guard.at(inks, above) == ink);
+                join(below, Guard.at(inks, below) == ink);
             }
-            Rows.put(sizes, number, queued);
+            Guard.put(sizes, number, queued);
             number++;
         }
 
         private void join(int spot, boolean alike) {
-            if (alike && Rows.at(patchOf, spot) < 0 && queued < queue.length) {
-                Rows.put(patchOf, spot, number);
-                Rows.put(queue, queued, spot);
+            if (alike && Guard.at(patchOf, spot) < 0 && queued < queue.length) {
+                Guard.put(patchOf, spot, number);
+                Guard.put(queue, queued, spot);
                 queued++;
             }
         }
@@ -1218,7 +1218,7 @@ public final class MarbledPaper {
         }
 
         int sizeAt(int spot) {
-            return Rows.at(sizes, Rows.at(patchOf, spot));
+            return Guard.at(sizes, Guard.at(patchOf, spot));
         }
     }
 
@@ -1285,7 +1285,7 @@ public final class MarbledPaper {
             dips = 0;
             carried = 0;
             takePulls(plan.pulls);
-            Rows.copy(plan.seeds, seeds);
+            Guard.copy(plan.seeds, seeds);
             spoil();
         }
 
@@ -1295,13 +1295,13 @@ public final class MarbledPaper {
             dips = other.dips;
             carried = other.carried;
             takePulls(other.pulls);
-            Rows.copy(other.seeds, seeds);
+            Guard.copy(other.seeds, seeds);
             spoil();
         }
 
         private void takePulls(int[] others) {
             for (int comb = 0; comb < plan.combs; comb++) {
-                Rows.put(pulls, comb, Rows.at(others, comb));
+                Guard.put(pulls, comb, Guard.at(others, comb));
                 reckonShifts(comb);
             }
         }
@@ -1314,20 +1314,20 @@ public final class MarbledPaper {
         // ---- what changes it; each tells whether it did
 
         boolean changePull(int comb, int pull) {
-            if (Rows.at(pulls, comb) == pull) {
+            if (Guard.at(pulls, comb) == pull) {
                 return false;
             }
-            Rows.put(pulls, comb, pull);
+            Guard.put(pulls, comb, pull);
             reckonShifts(comb);
             spoil();
             return true;
         }
 
         boolean changeSeed(int octave, int seed) {
-            if (Rows.at(seeds, octave) == seed) {
+            if (Guard.at(seeds, octave) == seed) {
                 return false;
             }
-            Rows.put(seeds, octave, seed);
+            Guard.put(seeds, octave, seed);
             spoil();
             return true;
         }
@@ -1335,8 +1335,8 @@ public final class MarbledPaper {
         boolean changeDrift(int across, int down) {
             int acrossBefore = driftAcross;
             int downBefore = driftDown;
-            driftAcross = Rows.wrap((long) driftAcross + across, plan.columns);
-            driftDown = Rows.wrap((long) driftDown + down, plan.rows);
+            driftAcross = Guard.wrap((long) driftAcross + across, plan.columns);
+            driftDown = Guard.wrap((long) driftDown + down, plan.rows);
             boolean changed = driftAcross != acrossBefore || driftDown != downBefore;
             if (changed) {
                 spoil();
@@ -1357,18 +1357,18 @@ public final class MarbledPaper {
         }
 
         private boolean carryOut(int order) {
-            int test = Rows.at(plan.orders.tests, order);
-            int end = Rows.at(plan.orders.ends, order);
+            int test = Guard.at(plan.orders.tests, order);
+            int end = Guard.at(plan.orders.ends, order);
             if (test < end && reckon(test, end) == 0) {
                 return false;
             }
-            int sum = reckon(Rows.at(plan.orders.sums, order), test);
-            int target = Rows.at(plan.orders.targets, order);
-            switch (Rows.at(plan.orders.kinds, order)) {
+            int sum = reckon(Guard.at(plan.orders.sums, order), test);
+            int target = Guard.at(plan.orders.targets, order);
+            switch (Guard.at(plan.orders.kinds, order)) {
                 case Kind.PULL:
-                    return changePull(target, Rows.hold(sum, 0, MOST_PULL));
+                    return changePull(target, Guard.hold(sum, 0, MOST_PULL));
                 case Kind.SEED:
-                    return changeSeed(target, Rows.hold(sum, 0, MOST_SEED));
+                    return changeSeed(target, Guard.hold(sum, 0, MOST_SEED));
                 default:
                     return target == 0 ? changeDrift(sum, 0) : changeDrift(0, sum);
             }
@@ -1379,7 +1379,7 @@ public final class MarbledPaper {
         private int reckon(int from, int to) {
             stack.clear();
             for (int k = from; k < to; k++) {
-                step(Rows.at(plan.orders.operations, k), Rows.at(plan.orders.operands, k));
+                step(Guard.at(plan.orders.operations, k), Guard.at(plan.orders.operands, k));
             }
             return stack.pop();
         }
@@ -1393,13 +1393,13 @@ public final class MarbledPaper {
                     stack.push(dips);
                     break;
                 case Kind.PULL:
-                    stack.push(Rows.at(pulls, operand));
+                    stack.push(Guard.at(pulls, operand));
                     break;
                 case Kind.SEED:
-                    stack.push(Rows.at(seeds, operand));
+                    stack.push(Guard.at(seeds, operand));
                     break;
                 case Kind.SHARE:
-                    stack.push(Rows.at(shares, operand + 1));
+                    stack.push(Guard.at(shares, operand + 1));
                     break;
                 case Kind.EDGE:
                     stack.push(isAtEdge(operand + 1));
@@ -1414,13 +1414,13 @@ public final class MarbledPaper {
                     int right = stack.pop();
                     int left = stack.pop();
                     stack.push(operation == Kind.HEIGHT
-                            ? Rows.at(heights, plan.spot(left, right)) : combine(operation, left, right));
+                            ? Guard.at(heights, plan.spot(left, right)) : combine(operation, left, right));
             }
         }
 
         private boolean isAtEdge(int ink) {
             for (int row = 0; row < plan.rows; row++) {
-                if (Rows.at(inks, row * plan.columns) == ink) {
+                if (Guard.at(inks, row * plan.columns) == ink) {
                     return true;
                 }
             }
@@ -1436,7 +1436,7 @@ public final class MarbledPaper {
                 case Kind.TIMES:
                     return left * right;
                 case Kind.OVER:
-                    return Rows.quotient(left, right);
+                    return Guard.quotient(left, right);
                 case Kind.MIN:
                     return Math.min(left, right);
                 case Kind.MAX:
@@ -1470,28 +1470,28 @@ public final class MarbledPaper {
         /** Keeps by how much the comb moves each of its lines. */
         private void reckonShifts(int comb) {
             int lines = plan.linesOf(comb);
-            int teeth = Rows.at(plan.teeth, comb);
-            int pull = Rows.at(pulls, comb);
+            int teeth = Guard.at(plan.teeth, comb);
+            int pull = Guard.at(pulls, comb);
             for (int line = 0; line < lines; line++) {
-                int t = Rows.wrap(line * teeth, lines);
-                int shift = Rows.quotient(pull * 2 * Math.min(t, lines - t), lines);
-                Rows.put(shifts, comb * MOST_LINES + line, shift);
+                int t = Guard.wrap(line * teeth, lines);
+                int shift = Guard.quotient(pull * 2 * Math.min(t, lines - t), lines);
+                Guard.put(shifts, comb * MOST_LINES + line, shift);
             }
         }
 
         int shiftOf(int comb, int line) {
-            return Rows.at(shifts, comb * MOST_LINES + line);
+            return Guard.at(shifts, comb * MOST_LINES + line);
         }
 
         /** Whence the spot came. */
         int source(int column, int row) {
-            int x = Rows.wrap(column, plan.columns);
-            int y = Rows.wrap(row, plan.rows);
+            int x = Guard.wrap(column, plan.columns);
+            int y = Guard.wrap(row, plan.rows);
             for (int comb = plan.combs - 1; comb >= 0; comb--) {
-                if (Rows.at(plan.ways, comb) == 0) {
-                    x = Rows.wrap(x - shiftOf(comb, y), plan.columns);
+                if (Guard.at(plan.ways, comb) == 0) {
+                    x = Guard.wrap(x - shiftOf(comb, y), plan.columns);
                 } else {
-                    y = Rows.wrap(y - shiftOf(comb, x), plan.rows);
+                    y = Guard.wrap(y - shiftOf(comb, x), plan.rows);
                 }
             }
             return plan.spot(x - driftAcross, y - driftDown);
@@ -1502,7 +1502,7 @@ public final class MarbledPaper {
                 return;
             }
             for (int octave = 0; octave < plan.octaves; octave++) {
-                waves.prepare(octave, Rows.at(seeds, octave));
+                waves.prepare(octave, Guard.at(seeds, octave));
             }
             for (int ink = 0; ink < shares.length; ink++) {
                 shares[ink] = 0;
@@ -1512,9 +1512,9 @@ public final class MarbledPaper {
                 for (int column = 0; column < plan.columns; column++) {
                     int height = heightFrom(source(column, row));
                     int ink = plan.inkOf(height);
-                    Rows.put(heights, spot, height);
-                    Rows.put(inks, spot, ink);
-                    Rows.put(shares, ink, Rows.at(shares, ink) + 1);
+                    Guard.put(heights, spot, height);
+                    Guard.put(inks, spot, ink);
+                    Guard.put(shares, ink, Guard.at(shares, ink) + 1);
                     spot++;
                 }
             }
@@ -1524,10 +1524,10 @@ public final class MarbledPaper {
         private int heightFrom(int source) {
             int sum = 0;
             for (int octave = 0; octave < plan.octaves; octave++) {
-                int value = waves.valueKept(octave, Rows.at(seeds, octave), source);
-                sum += Rows.at(plan.strengths, octave) * value;
+                int value = waves.valueKept(octave, Guard.at(seeds, octave), source);
+                sum += Guard.at(plan.strengths, octave) * value;
             }
-            return Rows.hold(500 + sum / 16, 0, MOST_HEIGHT);
+            return Guard.hold(500 + sum / 16, 0, MOST_HEIGHT);
         }
 
         void group() {
@@ -1577,7 +1577,7 @@ public final class MarbledPaper {
         private int smallestHeight() {
             int smallest = MOST_HEIGHT;
             for (int spot = 0; spot < plan.columns * plan.rows; spot++) {
-                smallest = Math.min(smallest, Rows.at(heights, spot));
+                smallest = Math.min(smallest, Guard.at(heights, spot));
             }
             return smallest;
         }
@@ -1585,7 +1585,7 @@ public final class MarbledPaper {
         private int greatestHeight() {
             int greatest = 0;
             for (int spot = 0; spot < plan.columns * plan.rows; spot++) {
-                greatest = Math.max(greatest, Rows.at(heights, spot));
+                greatest = Math.max(greatest, Guard.at(heights, spot));
             }
             return greatest;
         }
@@ -1593,24 +1593,24 @@ public final class MarbledPaper {
         int tellOctave(int octave, int what) {
             switch (what) {
                 case 0:
-                    return Rows.at(plan.across, octave);
+                    return Guard.at(plan.across, octave);
                 case 1:
-                    return Rows.at(plan.down, octave);
+                    return Guard.at(plan.down, octave);
                 case 2:
-                    return Rows.at(plan.strengths, octave);
+                    return Guard.at(plan.strengths, octave);
                 default:
-                    return Rows.at(seeds, octave);
+                    return Guard.at(seeds, octave);
             }
         }
 
         int tellComb(int comb, int what) {
             switch (what) {
                 case 0:
-                    return Rows.at(plan.ways, comb);
+                    return Guard.at(plan.ways, comb);
                 case 1:
-                    return Rows.at(plan.teeth, comb);
+                    return Guard.at(plan.teeth, comb);
                 default:
-                    return Rows.at(pulls, comb);
+                    return Guard.at(pulls, comb);
             }
         }
     }

@@ -95,6 +95,11 @@ public final class FaceTest {
         for (Class<?> inside : all) {
             Checks.due("static and not public: " + inside.getName(), true,
                 () -> Modifier.isStatic(inside.getModifiers()) && !Modifier.isPublic(inside.getModifiers()));
+            for (Method method : inside.getDeclaredMethods()) {
+                Checks.due("no name of the face: " + method, true,
+                    () -> Arrays.stream(FACE).noneMatch(line -> line.contains(" " + method.getName() + "(")));
+                Checks.due("no more than seven parameters: " + method, true, () -> method.getParameterCount() <= 7);
+            }
             long fields = Arrays.stream(inside.getDeclaredFields())
                 .filter(field -> !Modifier.isStatic(field.getModifiers())).count();
             Checks.due("no more than twenty fields: " + inside.getName(), true, () -> fields <= 20);

@@ -3,7 +3,7 @@ import java.util.List;
 
 /** Runs of calls by chance, asked of the class and of the document's plain retelling. */
 public final class RandomRunsTest {
-    private static final int RUNS = 2500;
+    private static final int RUNS = 6000;
     private static final int[] ERRORS = new int[6];
     private static int calls;
     private static int wrong;
