@@ -532,10 +532,6 @@ public final class MarbledPaper {
             return token >= 0 && token < tokens && token < kinds.length ? kinds[token] : Kind.BAD;
         }
 
-        int startAt(int token) {
-            return Guard.at(starts, token);
-        }
-
         long contentAt(int token) {
             return token >= 0 && token < contents.length ? contents[token] : 0;
         }
@@ -895,7 +891,7 @@ public final class MarbledPaper {
         private void refuse() {
             if (error != 1) {
                 error = 1;
-                errorPlace = tape.startAt(token);
+                errorPlace = Guard.at(tape.starts, token);
             }
             kind = Kind.BAD;
         }
@@ -903,7 +899,7 @@ public final class MarbledPaper {
         private void fault(int number) {
             if (error == 0) {
                 error = number;
-                errorPlace = tape.startAt(token);
+                errorPlace = Guard.at(tape.starts, token);
             }
         }
     }
@@ -1238,7 +1234,7 @@ public final class MarbledPaper {
             }
         }
 
-        void push(boolean holds) {
+        void pushTest(boolean holds) {
             push(holds ? 1 : 0);
         }
 
@@ -1402,13 +1398,13 @@ public final class MarbledPaper {
                     stack.push(Guard.at(shares, operand + 1));
                     break;
                 case Kind.EDGE:
-                    stack.push(isAtEdge(operand + 1));
+                    stack.pushTest(isAtEdge(operand + 1));
                     break;
                 case Kind.NEGATE:
                     stack.push(-stack.pop());
                     break;
                 case Kind.NOT:
-                    stack.push(stack.pop() == 0);
+                    stack.pushTest(stack.pop() == 0);
                     break;
                 default:
                     int right = stack.pop();

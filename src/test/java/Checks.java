@@ -43,15 +43,29 @@ final class Checks {
         }
     }
 
+    /** A text, whose signs are bytes, and as many zeros behind it as make it rows of twenty. */
+    private static byte[] rows(String text) {
+        byte[] bytes = text.getBytes(StandardCharsets.ISO_8859_1);
+        return Arrays.copyOf(bytes, (bytes.length + 19) / 20 * 20);
+    }
+
     /** The tape of the paper becomes this text, whose signs are bytes. */
     static void write(MarbledPaper paper, String text) {
         paper.trim(0);
-        byte[] bytes = text.getBytes(StandardCharsets.ISO_8859_1);
-        byte[] whole = Arrays.copyOf(bytes, (bytes.length + 19) / 20 * 20);
+        byte[] whole = rows(text);
         for (int k = 0; k < whole.length; k += 20) {
             paper.feed(four(whole, k), four(whole, k + 4), four(whole, k + 8), four(whole, k + 12), four(whole, k + 16));
         }
-        paper.trim(bytes.length);
+        paper.trim(text.length());
+    }
+
+    static void write(PlainPaper paper, String text) {
+        paper.trim(0);
+        byte[] whole = rows(text);
+        for (int k = 0; k < whole.length; k += 20) {
+            paper.feed(four(whole, k), four(whole, k + 4), four(whole, k + 8), four(whole, k + 12), four(whole, k + 16));
+        }
+        paper.trim(text.length());
     }
 
     static int four(byte[] bytes, int k) {
@@ -63,5 +77,31 @@ final class Checks {
         write(paper, text);
         due("teach " + text, 0, paper::teach);
         return paper;
+    }
+
+    static PlainPaper plain(String text) {
+        PlainPaper paper = new PlainPaper();
+        write(paper, text);
+        due("the plain one's teach " + text, 0, paper::teach);
+        return paper;
+    }
+
+    // ---- lists that are right, and wrong ones
+
+    /** teach() of this list answers so. */
+    static void error(String list, int error, int place) {
+        MarbledPaper paper = new MarbledPaper();
+        write(paper, list);
+        due("teach " + list, error, paper::teach);
+        due("errorAt " + list, place, paper::errorAt);
+    }
+
+    static void good(String list) {
+        error(list, 0, -1);
+    }
+
+    /** There is this error at the only ? of the list, which is left out. */
+    static void marked(int error, String list) {
+        error(list.replace("?", ""), error, list.indexOf('?'));
     }
 }

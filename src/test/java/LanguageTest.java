@@ -22,19 +22,15 @@ public final class LanguageTest {
     }
 
     private static void error(String list, int error, int place) {
-        MarbledPaper x = new MarbledPaper();
-        Checks.write(x, list);
-        Checks.due("teach " + list, error, x::teach);
-        Checks.due("errorAt " + list, place, x::errorAt);
+        Checks.error(list, error, place);
     }
 
     private static void good(String list) {
-        error(list, 0, -1);
+        Checks.good(list);
     }
 
-    /** There is this error at the only ? of the list, which is left out. */
     private static void marked(int error, String list) {
-        error(list.replace("?", ""), error, list.indexOf('?'));
+        Checks.marked(error, list);
     }
 
     private static void goodLists() {
