@@ -42,6 +42,7 @@ public final class CallEdgesTest {
         bytesInTheirOrder();
         trimEdges();
         teachChangesAllOrNothing();
+        teachAgainAndAgain();
         errorAtEdges();
         countEdges();
         shareEdges();
@@ -270,6 +271,29 @@ public final class CallEdgesTest {
         Checks.write(x, SAMPLE);
         due("teach less than before", 0, x::teach);
         due("nothing is left of the fuller one", Portrait.of(Checks.taught(SAMPLE)), () -> Portrait.of(x));
+    }
+
+    /** Nothing of earlier lists is in the way of later ones. */
+    private static void teachAgainAndAgain() {
+        MarbledPaper x = new MarbledPaper();
+        String most = "drift across by 1" + "+1".repeat(197) + ";";
+        String wrong = "drift across by 2" + "+2".repeat(196) + "; paper";
+        for (int n = 0; n < 3; n++) {
+            Checks.write(x, wrong);
+            due("a long wrong list", 1, x::teach);
+            Checks.write(x, most);
+            due("the longest list", 0, x::teach);
+            due("its order", 1, () -> x.dip(1));
+            due("its sum", 198 % 16, () -> x.count(11));
+        }
+        MarbledPaper y = new MarbledPaper();
+        for (int cells = 1; cells <= 8; cells++) {
+            String list = "paper 9 by 7; octave o across " + cells + " down " + (9 - cells) + " strength 9 seed 0; "
+                + "comb c across teeth " + cells + " pull 5; ink a from " + 60 * cells + ";";
+            Checks.write(y, list);
+            due("the next list", 0, y::teach);
+            due("it is seen with its seed 0", Checks.plain(list).digest(), y::digest);
+        }
     }
 
     private static void errorAtEdges() {

@@ -196,6 +196,20 @@ public final class ListEdgesTest {
         marked(3, "ink a9 from 5; drift across by share ?b0;");
         marked(3, "ink az from 5; drift across by share ?b;");
         marked(3, "ink aza from 5; drift across by share ?a0a;");
+        String signs = "abcdefghijklmnopqrstuvwxyz0123456789";
+        for (String name : new String[] {"a", "z", "a0", "b0", "aj", "dl", "z9", "zz"}) {
+            for (int first = 0; first < 26; first++) {
+                for (int second = -1; second < 36; second++) {
+                    String other = signs.charAt(first) + (second < 0 ? "" : signs.substring(second, second + 1));
+                    String list = "ink " + name + " from 5; drift across by share ?" + other + ";";
+                    if (other.equals(name)) {
+                        good(list.replace("?", ""));
+                    } else {
+                        marked(List.of(KEYWORDS.split(" ")).contains(other) ? 1 : 3, list);
+                    }
+                }
+            }
+        }
     }
 
     private static void keywordsAreNoNames() {

@@ -29,6 +29,7 @@ public final class PaperEdgesTest {
         whenceAroundTheEdges();
         heightsAreCutTowardsZero();
         heightsAreHeld();
+        heightsBehindEachSeed();
         inksAndLevels();
         patchesAroundTheEdges();
         pullsAreHeld();
@@ -36,6 +37,7 @@ public final class PaperEdgesTest {
         driftsByTheRemainder();
         whatCountsAsCarriedOut();
         ordersGoByThoseAhead();
+        theTwentiethOrder();
         shareIsOfJustThisInk();
         edgeIsOfTheFirstColumn();
         dipIsTheNumberOfDips();
@@ -119,7 +121,8 @@ public final class PaperEdgesTest {
         for (int lines = 4; lines <= 24; lines++) {
             for (int teeth = 1; teeth <= 8; teeth++) {
                 MarbledPaper x = taught("paper " + lines + " by " + lines + "; comb c across teeth " + teeth
-                    + " pull 16; comb d down teeth " + teeth + " pull 1;");
+                    + " pull 16; comb d down teeth " + teeth + " pull 1; comb e across teeth " + teeth
+                    + " pull 3; comb f down teeth " + teeth + " pull 16;");
                 for (int line = 0; line < lines; line++) {
                     int t = line * teeth % lines;
                     int d = Math.min(t, lines - t);
@@ -127,6 +130,8 @@ public final class PaperEdgesTest {
                     String of = " of " + line + " of " + lines + " with teeth " + teeth;
                     due("moves" + of, 32 * d / lines, () -> x.moves(0, n));
                     due("moves by 1" + of, 2 * d / lines, () -> x.moves(1, n));
+                    due("moves by 3" + of, 6 * d / lines, () -> x.moves(2, n));
+                    due("moves by the last" + of, 32 * d / lines, () -> x.moves(3, n));
                 }
                 x.setPull(0, 0);
                 int middle = lines / 2;
@@ -229,6 +234,23 @@ public final class PaperEdgesTest {
         MarbledPaper held = taught(octaves(9, 9, 7) + "ink a from 0; ink b from 1; ink c from 998; ink d from 999;");
         due("the greatest level", 4, () -> held.ink(1, 0));
         due("the smallest level", 1, () -> held.ink(3, 0));
+    }
+
+    /** On one paper, the greatest with all octaves: heights of a seed, also where another one was before. */
+    private static void heightsBehindEachSeed() {
+        String list = "paper 24 by 24; octave a across 2 down 3 strength 9 seed 0; "
+            + "octave b across 3 down 1 strength 9 seed 7; octave c across 1 down 2 strength 9 seed 8; "
+            + "octave d across 8 down 5 strength 9 seed 999; ink k from 500;";
+        MarbledPaper x = taught(list);
+        PlainPaper plain = Checks.plain(list);
+        due("heights at first", plain.digest(), x::digest);
+        for (int octave = 0; octave < 4; octave++) {
+            int o = octave;
+            for (int seed : new int[] {0, 7, 9, 8, 16, 14, 2, 3, 4, 5, 6, 1, 15, 998, 999, 997, 0, 7}) {
+                due("octave " + o, plain.setSeed(o, seed), () -> x.setSeed(o, seed));
+                due("heights of octave " + o + " with seed " + seed, plain.digest(), x::digest);
+            }
+        }
     }
 
     // ---- patches and contours
@@ -399,7 +421,36 @@ public final class PaperEdgesTest {
         due("the drift down", 1, () -> z.count(12));
     }
 
+    /** The last order that there can be is like all others. */
+    private static void theTwentiethOrder() {
+        String told = STRIPES + "comb c across teeth 1 pull 0; ink a from 520; " + "drift down by 0;".repeat(18)
+            + "seed o to 1 when 1 = 1; ";
+        MarbledPaper pull = taught(told + "pull c to 9 when seed o = 1;");
+        due("a pull", 2, () -> pull.dip(1));
+        due("it is done", 9, () -> pull.comb(0, 2));
+        MarbledPaper seed = taught(told + "seed o to seed o + 76 when 1 = 1;");
+        due("a seed", 2, () -> seed.dip(1));
+        due("it is set", 77, () -> seed.octave(0, 3));
+        MarbledPaper share = taught(told + "drift across by share a;");
+        due("a drift", 2, () -> share.dip(1));
+        due("by the share of that moment, 5", 1, () -> share.count(11));
+        MarbledPaper down = taught(told + "drift down by share a when edge a and height(1, 1) = 554;");
+        due("a drift down", 2, () -> down.dip(1));
+        due("by what it tests", 0, () -> down.count(11));
+        due("and down", 1, () -> down.count(12));
+        MarbledPaper none = taught(told + "drift across by 1 when 1 = 2;");
+        due("a test that does not hold", 1, () -> none.dip(1));
+    }
+
     private static void shareIsOfJustThisInk() {
+        MarbledPaper first = taught("paper 4 by 24; octave o across 1 down 1 strength 1 seed 0; ink a from 501; "
+            + "drift down by share a;");
+        due("the first call behind teach", 0, () -> first.dip(1));
+        due("24 spots of 24 rows", 24, () -> first.share(1));
+        MarbledPaper alone = taught(STRIPES + "ink a from 520; drift across by share a; seed o to 1 when 1 = 1; "
+            + "drift down by share a;");
+        due("4 of 4 columns, another seed, and 5 of 4 rows", 2, () -> alone.dip(1));
+        due("the share of its turn", 1, () -> alone.count(12));
         MarbledPaper x = taught(STRIPES + "ink a from 460; ink b from 500; ink c from 540; ink d from 541; "
             + "seed o to share a + 10 * share b + 100 * share c + share d when 1 = 1;");
         x.dip(1);
